@@ -1135,6 +1135,9 @@ public final class ModelTest {
                 int v = draw(8);
                 same("rule(" + kind + ", " + v + ")", x.rule(kind, v), m.rule(kind, v));
             }
+            for (int i = 0; i < 6 && run % 3 != 0; i++) {
+                spread(i);
+            }
             same("lead(0)", x.lead(0), m.lead(0));
             for (int i = 0; i < CALLS - 120; i++) {
                 call();

@@ -160,6 +160,11 @@ public final class PromiseTest {
         fault(x, "cool 1;cool 1;cool 1;cool 1;cool 1;cool 1;cool 1;cool 1;cool 1;cool 1;", 69);
         fault(x, "cool 1;cool 1;cool 1;cool 1;cool 1;cool 1;cool 1;cool 1;cool 1;cool 1;x", 69);
         due("none came", x.count(0), 0);
+        for (int i = 0; i < 20; i++) {
+            fault(x, "meal 1 w=1|w=1|w=1|w=1|w=1|w=1|w=1;", 35);
+        }
+        due("behind many FAULTS", read(x, "meal 1 w=2&c=1|w=3"), 0);
+        due("its MEAL", x.hour(0, 2, 2, 0, 0, 1) * 2 + x.hour(0, 2, 4, 0, 0, 1), 2);
         mills("cool 0");
         mills("fast 0 w<0");
         mills("fast 99 f>99");
@@ -465,6 +470,21 @@ public final class PromiseTest {
         due("TOLD from t 0 on, as NOW", y.mean(1, 4, 2, 0), 22000);
         y.go(0, 0);
         due("TOLD from t 0 on, later", y.mean(1, 4, 2, 0), 22000);
+        // by both ways to WIND 0 the SIGN is another one: 2 -> 1 -> 0 and 2 -> 2 -> 0
+        MillWind sign = led("meal 7 w=0&c=2;meal 3 w=2&c=1;meal 1 w=1&c=2;meal 2 w=1&c=1");
+        sign.rule(2, 0);
+        sign.wind(2, 0, 500, 500, 0, 0);
+        sign.wind(1, 1000, 0, 0, 0, 0);
+        sign.wind(0, 0, 0, 1000, 0, 0);
+        due("SIGN of 2 HOURS", sign.mean(0, 2, 2, 0), 3000 + 1000 + 1500);
+        sign.wind(2, 500, 500, 0, 0, 0);
+        // 2: 3; then 0 by the sign of 2 (CLOTH 1): 0, or 1 by that of 2: 2; then 2 by that of 0 (CLOTH 2): 0,
+        // or 0 by that of 1 (CLOTH 1): 0
+        due("SIGN of 3 HOURS", sign.mean(0, 3, 2, 0), 4000);
+        sign.wind(1, 500, 0, 500, 0, 0);
+        sign.wind(0, 500, 0, 500, 0, 0);
+        // the third HOUR: 0 by the sign of 0: 7, 2 by that of 0: 0; 0 by that of 1: 0, 2 by that of 1: 3
+        due("SIGN of 3 HOURS, by the WIND before", sign.mean(0, 3, 2, 0), 4000 + (3500 + 1500) / 2);
         MillWind hot = led(HOT);
         hot.rule(4, 0);
         hot.rule(3, 0);

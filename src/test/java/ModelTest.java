@@ -896,7 +896,7 @@ public final class ModelTest {
 
     static String clause() {
         int what = draw(10);
-        if (what < 3) {
+        if (what < 2) {
             return "fast " + draw(9) + " " + someOr(0);
         }
         if (what < 5) {
@@ -908,7 +908,7 @@ public final class ModelTest {
         if (what == 6) {
             return "wear " + draw(4) + " " + someOr(0);
         }
-        return what == 7 ? "cool " + draw(4) : what == 8 ? "edge " + (5 + draw(20)) : "burn " + (draw(20) == 0 ? 0 : 1 + draw(9));
+        return what == 7 ? "cool " + draw(4) : what == 8 ? "edge " + (5 + draw(20)) : "burn " + (draw(20) == 0 ? 0 : 3 + draw(7));
     }
 
     static String text() {
@@ -920,7 +920,7 @@ public final class ModelTest {
                 s.append(next);
             }
         }
-        int spoil = draw(8);
+        int spoil = draw(12);
         if (spoil < 3 && s.length() > 0) {
             int at = draw(s.length());
             String signs = "fmhwceb 0123456789;&|!()<=>sd\u00e9\0";
@@ -997,6 +997,10 @@ public final class ModelTest {
         int c = near(8);
         int d = near(10);
         int e = near(10);
+        if (m.led == null && draw(6) == 0 || m.away && draw(3) == 0) {
+            int f = near(m.mills.size());
+            same("lead(" + f + ")", x.lead(f), m.lead(f));
+        }
         switch (draw(36)) {
             case 0: feedAll(text()); break;
             case 1: case 2: same("mill()", x.mill(), m.mill()); break;
@@ -1128,7 +1132,11 @@ public final class ModelTest {
             told = new StringBuilder();
             int first = 1 + draw(3);
             for (int i = 0; i < first && run % 10 != 0; i++) {
-                feedAll(text());
+                String drawn = text();
+                for (int k = 0; k < 20 && run % 10 > 2 && (faultOf(drawn) >= 0 || !drawn.contains("meal")); k++) {
+                    drawn = text();
+                }
+                feedAll(drawn);
                 same("mill()", x.mill(), m.mill());
                 spread(draw(6));
                 int kind = draw(7);

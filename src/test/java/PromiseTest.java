@@ -485,6 +485,17 @@ public final class PromiseTest {
         sign.wind(0, 500, 0, 500, 0, 0);
         // the third HOUR: 0 by the sign of 0: 7, 2 by that of 0: 0; 0 by that of 1: 0, 2 by that of 1: 3
         due("SIGN of 3 HOURS, by the WIND before", sign.mean(0, 3, 2, 0), 4000 + (3500 + 1500) / 2);
+        MillWind apart = led("heat 1 w=0;wear 1 w=1;meal 5 h=1&w=3");
+        apart.rule(1, 0);
+        apart.wind(2, 500, 500, 0, 0, 0);
+        apart.wind(0, 0, 0, 0, 1000, 0);
+        apart.wind(1, 0, 0, 0, 1000, 0);
+        due("HEAT is not DULL", apart.mean(0, 3, 2, 0), 2500);
+        MillWind even = led("meal 5 w=1");
+        even.rule(2, 0);
+        even.wind(1, 500, 500, 0, 0, 0);
+        even.wind(0, 0, 1000, 0, 0, 0);
+        due("a later HOUR is not an earlier one", even.mean(0, 3, 1, 0), 5000 + (5000 + 7500) / 2);
         MillWind hot = led(HOT);
         hot.rule(4, 0);
         hot.rule(3, 0);

@@ -10,6 +10,8 @@ public final class MillWind {
     /** The answer where an HOUR, or a REST, is asked for and there is none. */
     private static final int NOWHERE = -5;
     private static final int OTHER_KIND = -6;
+    /** The least that three MILLS of a RIDGE can grind. */
+    private static final int ALL_AWAY = -3;
     /** Numbers of MILLS are 0 or more, so a FAULT is told from here downwards. */
     private static final int FAULTS = -10;
     /** MEAL may be -1, so the refusals of go() lie this much below the common ones. */
@@ -196,7 +198,7 @@ public final class MillWind {
         planner.begin(mills[now.led.mill], now.winds);
         planner.followRule(now.rules, rule);
         return what == 0
-            ? planner.meanFor(n, wind, now.led.heat, now.led.dull, Planner.NEVER)
+            ? planner.meanFor(n, wind, now.led.heat, now.led.dull)
             : planner.awayFor(n, wind, now.led.heat, now.led.dull);
     }
 
@@ -290,7 +292,7 @@ public final class MillWind {
         if (!isMill(a) || !isMill(b) || !isMill(c) || !isWind(wind) || !within(what, 0, 1)) {
             return NONE;
         }
-        int most = Integer.MIN_VALUE;
+        int most = ALL_AWAY;
         int rest = NOWHERE;
         int atRest = 0;
         for (int row = 0; row < CLOTHS * CLOTHS * CLOTHS; row++) {
@@ -720,7 +722,8 @@ public final class MillWind {
                 } else if (part == OR) {
                     truths = (truths >>> 1) | (truths & 1);
                 } else {
-                    int value = signs[Math.floorMod(part / 300, SIGNS)];
+                    int sign = part / 300;
+                    int value = sign >= 0 && sign < SIGNS ? signs[sign] : 0;
                     int n = part % 100;
                     int side = value < n ? 0 : value == n ? 1 : 2;
                     truths = truths << 1 | (side == part / 100 % 3 ? 1 : 0);
@@ -912,7 +915,7 @@ public final class MillWind {
     /** What a RULE sets, what it brings in the MEAN, and BEST, from the last HOUR back. */
     private static final class Planner {
         static final int HOURS = 6;
-        static final int NEVER = -1;
+        private static final int NEVER = -1;
         private static final int AHEAD = 3, MILLION = 1000000;
         /** An HOUR with no MEAL, and HEAT and DULL 0 behind it. */
         private static final int DRESSED = 0;
@@ -961,7 +964,7 @@ public final class MillWind {
                 case Rules.FIXED: return v;
                 case Rules.SIGN: return mostMeal(before, heat, dull, v % 2 == 0 ? STONES_0 : STONES_1);
                 case Rules.WATCH: return mostMeal(wind, heat, dull, ALL);
-                case Rules.BEST: return bestSetting(ahead, wind, heat, dull);
+                case Rules.BEST: return bestFrom(ahead, wind, heat, dull) % SETTINGS;
                 case Rules.SAFE: return greatest(ahead, wind, heat, dull, safeOnes(heat, dull)) % SETTINGS;
                 case Rules.TOLD: return rules.told(rule, t);
                 default: return 0;
@@ -1008,17 +1011,20 @@ public final class MillWind {
             int most = 0;
             for (int s = 0; s < SETTINGS; s++) {
                 followKind(Rules.FIXED, s);
-                most = Math.max(most, meanFor(n, wind, heat, dull, NEVER));
+                startMean(n, NEVER, false);
+                most = Math.max(most, meanFrom(0, wind, wind, heat, dull));
             }
-            return bestWorth(n, wind, heat, dull) - most;
+            return bestFrom(n, wind, heat, dull) / SETTINGS - most;
         }
 
         int dressing(int n, int wind, int heat, int dull) {
             followKind(Rules.WATCH, 0);
-            int most = meanFor(n, wind, heat, dull, NEVER);
+            startMean(n, NEVER, false);
+            int most = meanFrom(0, wind, wind, heat, dull);
             int which = NOWHERE;
             for (int at = 0; at < n; at++) {
-                int worth = meanFor(n, wind, heat, dull, at);
+                startMean(n, at, false);
+                int worth = meanFrom(0, wind, wind, heat, dull);
                 if (worth > most) {
                     most = worth;
                     which = at;
@@ -1070,9 +1076,9 @@ public final class MillWind {
             return Mill.mealOf(hour) * 1000 + (int) (behind / Winds.WHOLE);
         }
 
-        /** MEAN by what is followed; the stones are dressed in HOUR at, if that is not NEVER. */
-        int meanFor(int n, int wind, int heat, int dull, int at) {
-            startMean(n, at, false);
+        /** MEAN by what is followed. */
+        int meanFor(int n, int wind, int heat, int dull) {
+            startMean(n, NEVER, false);
             return meanFrom(0, wind, wind, heat, dull);
         }
 
@@ -1082,6 +1088,7 @@ public final class MillWind {
             return meanFrom(0, wind, wind, heat, dull);
         }
 
+        /** What comes is asked for anew; the stones are dressed in HOUR at, if that is not NEVER. */
         private void startMean(int n, int at, boolean away) {
             hours = n;
             dressAt = at;

@@ -178,6 +178,12 @@ final class DaySentences extends Sentences {
             x.day(5, 2);
             x.day(0, 0);
             due("2 is more than RUNNING AWAY", x.judged(2), 1);
+            for (int setting = 0; setting < 8; setting++) {
+                Counted y = led("meal 5 c=" + setting / 2 + "&s=" + setting % 2);
+                y.day(0, setting);
+                y.day(0, 7 - setting);
+                due("by SETTING " + setting, y.judged(2), 1);
+            }
         });
         holds(17, "COST: that in which the most more (of several the first; -5: none).", x -> {
             lead(x, "meal 9 w=2&c=3;meal 4 w=1&c=3;meal 3 c=1;fast 9 w=5&c=0;edge 8;heat 9 w=4;burn 9");
@@ -258,7 +264,7 @@ final class DaySentences extends Sentences {
                 due("20 HOURS by 20", x.late(32), 0);
                 due("20 HOURS by 1", x.late(4), 4);
                 due("20 HOURS by 99 and 20 by 20", x.late(34), 0);
-                MillWind y = led("meal 1 w<9");
+                Counted y = led("meal 1 w<9");
                 y.order(5, 5, 9);
                 due("from NOW", y.late(1), 0);
                 for (int i = 0; i < 9; i++) {
@@ -306,7 +312,7 @@ final class DaySentences extends Sentences {
                 due("never ready", x.take(), 14);
                 x.order(9, 9, 18);
                 due("18 and 5 is more than 7, 6, 5, and than 18 alone", x.take(), 36);
-                MillWind y = new MillWind();
+                Counted y = new Counted();
                 y.order(5, 9, 4);
                 y.order(5, 9, 4);
                 due("of like ones the least as bits", y.take(), 1);
@@ -315,7 +321,7 @@ final class DaySentences extends Sentences {
                 due("5 by 5 and another one by 10 is not by 9", y.take(), 1);
                 y.order(4, 9, 0);
                 due("a PRICE of 0 more is no more", y.take(), 1);
-                MillWind z = new MillWind();
+                Counted z = new Counted();
                 z.order(2, 9, 3);
                 z.order(2, 5, 3);
                 z.order(2, 3, 3);
@@ -329,7 +335,7 @@ final class DaySentences extends Sentences {
                 x.order(20, 99, 1);
                 due("ORDERS to " + i, x.take(), new int[] {0, 2, 6, 14, 30, 30}[i]);
             }
-            MillWind y = new MillWind();
+            Counted y = new Counted();
             for (int i = 0; i < 6; i++) {
                 y.order(1, 6, 99);
             }
@@ -457,7 +463,7 @@ final class DaySentences extends Sentences {
 
     // ---- promise 22
 
-    private static void stands(MillWind x, int... want) {
+    private static void stands(Counted x, int... want) {
         for (int what = 0; what < 6; what++) {
             due("led(" + what + ")", x.led(what), want[what]);
         }
@@ -479,8 +485,8 @@ final class DaySentences extends Sentences {
                 mill(x, "meal 3 w=4");
                 x.lead(1);
                 due("of the one that is LED", x.run(0, 2, 0, 4), 6);
-                MillWind y = led("meal 3 w=1&c=2&h<2;meal 1 w=2;heat 1 w<9;wear 2 c=2;burn 5");
-                MillWind z = led("meal 3 w=1&c=2&h<2;meal 1 w=2;heat 1 w<9;wear 2 c=2;burn 5");
+                Counted y = led("meal 3 w=1&c=2&h<2;meal 1 w=2;heat 1 w<9;wear 2 c=2;burn 5");
+                Counted z = led("meal 3 w=1&c=2&h<2;meal 1 w=2;heat 1 w<9;wear 2 c=2;burn 5");
                 y.rule(1, 4);
                 y.run(0, 1, 7, 1);
                 y.run(0, 1, 7, 2);
@@ -518,7 +524,7 @@ final class DaySentences extends Sentences {
 
     /** The WIND that follows WIND 0 with these CHANCES (of 0, 1, 2, 3, 4), behind a RUN's first HOUR. */
     private static void follows(int want, int seed, int before, int... chances) {
-        MillWind x = led(BITS);
+        Counted x = led(BITS);
         x.rule(0, 0);
         for (int i = 0; i < before; i++) {
             x.go(0, 0);
@@ -580,12 +586,17 @@ final class DaySentences extends Sentences {
             x.lead(0);
             due("WINDS 2, 3, 2, 3, 4", x.run(0, 5, 7, 2), 4 + 8 + 4 + 8 + 16);
             due("a RUN begins with its own WIND", x.run(0, 1, 7, 5), 32);
+            x.lead(0);
+            x.wind(4, 0, 0, 0, 0, 0);
+            x.wind(5, 0, 0, 0, 638, 362);
+            x.wind(3, 0, 0, 0, 1000, 0);
+            due("by the CHANCES of its own WIND: 5, 4, 5", x.run(0, 3, 7, 5), 32 + 16 + 32);
         });
     }
 
     private static void runRefusals() {
         holds(22, "NO: rule, n, seed, wind, no MILL is LED, beyond HOUR 999.", x -> {
-            MillWind none = new MillWind();
+            Counted none = new Counted();
             due("no RULE, none LED", none.run(0, 1, 0, 0), NO);
             none.rule(0, 0);
             mill(none, "cool 1");

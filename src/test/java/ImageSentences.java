@@ -48,11 +48,13 @@ final class ImageSentences extends Sentences {
     }
 
     /** Something else of all. */
-    private static void change(MillWind x) {
+    private static void change(Counted x) {
         x.feed('p', 1);
         x.mill();
         mill(x, COLD);
         x.lead(2);
+        x.go(0, 3);
+        x.go(0, 3);
         x.go(5, 3);
         x.wind(1, 0, 0, 0, 0, 0);
         x.wind(5, 1, 2, 3, 4, 5);
@@ -121,8 +123,8 @@ final class ImageSentences extends Sentences {
             x.row(0, 4);
             x.order(5, 9, 7);
             x.order(5, 8, 7);
-            lead(x, HOT);
-            x.day(0, 6);
+            lead(x, "meal 9 c=3&w=1;heat 9 c=3;meal 4 c=0;burn 5");
+            x.day(1, 6);
             x.day(0, 0);
             feed(x, "cool ");
             x.image();
@@ -132,7 +134,7 @@ final class ImageSentences extends Sentences {
             x.row(0, 5);
             x.day(-1, 0);
             x.day(0, 0);
-            x.day(0, 6);
+            x.day(2, 6);
             x.order(1, 1, 1);
             due("changed", x.take(), 5);
             due("undo()", x.undo(), 1);

@@ -40,7 +40,7 @@ final class MillSentences extends Sentences {
                 due("ridge(" + mill + ", ..)", x.ridge(mill, mill, mill, 0, 0), -1);
             }
             mill(x, "cool 1");
-            due("another object has none", new MillWind().count(0), 0);
+            due("another object has none", new Counted().count(0), 0);
             due("this one has", x.count(0), 1);
         });
         holds(1, "One MILL at a time is LED (none at first):", x -> {
@@ -146,6 +146,14 @@ final class MillSentences extends Sentences {
             for (int mill = 0; mill < 5; mill++) {
                 due("each is its own", x.hour(mill, 0, 0, 9, 0, 2), 9 - mill);
             }
+            Counted y = new Counted();
+            for (int i = 0; i < 20; i++) {
+                due("many FAULTS", read(y, "meal 1 w=1|w=1|w=1|w=1|w=1|w=1|w=1;"), -45);
+            }
+            due("then a MILL", read(y, "meal 1 w=2&c=1|w=3"), 0);
+            due("of its own text", y.hour(0, 2, 2, 0, 0, 1), 1);
+            due("of its own text", y.hour(0, 1, 2, 0, 0, 1), 0);
+            due("of its own text", y.hour(0, 3, 4, 0, 0, 1), 1);
         });
         holds(3, "-10 less the FAULT.", x -> {
             due("an empty TAPE: FAULT 0", x.mill(), -10);
@@ -292,12 +300,18 @@ final class MillSentences extends Sentences {
             mill(x, "cool 2;edge 99;burn 99;meal 1 w<9");
             due("burn 99: HEAT 9 is not", x.hour(3, 0, 0, 9, 0, 4), 0);
             due("each MILL its own", x.hour(3, 0, 0, 9, 0, 2), 7);
+            fault("fast 9 w<9;cool 9;edge 0;burn 0;meal 9 w<9;x", 43);
+            due("a FAULT", read(x, "fast 9 w<9;cool 9;edge 0;burn 0;meal 9 w<9;x"), -53);
+            mill(x, "fast 5 w<9;meal 4 w<9");
+            due("a FAULT leaves no fast", x.hour(4, 0, 0, 9, 0, 0), 5);
+            due("a FAULT leaves no cool", x.hour(4, 0, 0, 9, 0, 2), 9);
+            due("a FAULT leaves no edge, burn, meal", x.hour(4, 0, 0, 9, 0, 1), 4);
         });
     }
 
     /** Whether an E holds: by MEAL of a MILL that has it alone. */
     private static void truth(String e, int wind, int setting, int heat, int dull, boolean want) {
-        MillWind x = new MillWind();
+        Counted x = new Counted();
         mill(x, "meal 1 " + e);
         due("MEAL by " + e + " with " + wind + ", " + setting + ", " + heat + ", " + dull,
             x.hour(0, wind, setting, heat, dull, 1), want ? 1 : 0);
@@ -389,6 +403,9 @@ final class MillSentences extends Sentences {
                     truth("w=" + n, wind, 0, 0, 0, wind == n);
                     truth("w>" + n, wind, 0, 0, 0, wind > n);
                 }
+                Counted y = new Counted();
+                mill(y, "fast 99 w<9;meal 1 w>99|c>99|s>99|h>99|d>99|f>99;meal 2 w>98|c>98|s>98|h>98|d>98;meal 4 f>98");
+                due("each sign its own, to 99", y.hour(0, wind, 7, 9, 9, 1), 4);
                 truth("w<99", wind, 0, 0, 0, true);
                 truth("w=99", wind, 0, 0, 0, false);
                 truth("w<0", wind, 0, 0, 0, false);
@@ -490,7 +507,7 @@ final class MillSentences extends Sentences {
 
     // ---- promise 4
 
-    private static void sixOf(MillWind x, int mill, int wind, int setting, int heat, int dull, int... want) {
+    private static void sixOf(Counted x, int mill, int wind, int setting, int heat, int dull, int... want) {
         for (int what = 0; what < 6; what++) {
             due("hour(" + mill + ", " + wind + ", " + setting + ", " + heat + ", " + dull + ", " + what + ")",
                 x.hour(mill, wind, setting, heat, dull, what), want[what]);
@@ -658,7 +675,7 @@ final class MillSentences extends Sentences {
 
     // ---- promises 5, 6
 
-    private static void chances(MillWind x, int wind, int... want) {
+    private static void chances(Counted x, int wind, int... want) {
         for (int next = 0; next < 6; next++) {
             due("chance(" + wind + ", " + next + ")", x.chance(wind, next), want[next]);
         }
@@ -740,7 +757,7 @@ final class MillSentences extends Sentences {
 
     // ---- promises 7, 8, 9
 
-    private static void stands(MillWind x, int... want) {
+    private static void stands(Counted x, int... want) {
         for (int what = 0; what < 6; what++) {
             due("led(" + what + ")", x.led(what), want[what]);
         }

@@ -10,7 +10,7 @@ import java.util.TreeSet;
  * written another way (texts read anew each hour, no tables, rules as real classes): all answers must be the same.
  */
 public final class ModelTest {
-    private static final int RUNS = 400, CALLS = 512;
+    private static final int RUNS = 700, MOST_AT_ONCE = 122, LAST_ONES = 124;
 
     // ---- the model
 
@@ -945,7 +945,7 @@ public final class ModelTest {
         return n <= 0 ? 0 : draw(n);
     }
 
-    static MillWind x;
+    static Counted x;
     static Model m;
     static int run;
     static int wrong;
@@ -1105,6 +1105,7 @@ public final class ModelTest {
 
     /** After a run all that can be asked for must be alike. */
     static void askAll() {
+        // these are the LAST_ONES
         m.bests.clear();
         for (int i = 0; i < 6; i++) {
             same("count(" + i + ")", x.count(i), m.count(i));
@@ -1127,7 +1128,7 @@ public final class ModelTest {
     public static void main(String[] args) {
         for (run = 0; run < RUNS; run++) {
             random = new Random(run);
-            x = new MillWind();
+            x = new Counted();
             m = new Model();
             told = new StringBuilder();
             int first = 1 + draw(3);
@@ -1147,7 +1148,7 @@ public final class ModelTest {
                 spread(i);
             }
             same("lead(0)", x.lead(0), m.lead(0));
-            for (int i = 0; i < CALLS - 120; i++) {
+            while (x.left() > MOST_AT_ONCE + LAST_ONES) {
                 call();
             }
             askAll();

@@ -23,7 +23,7 @@ public final class PromiseTest {
         }
     }
 
-    private static void feedAll(MillWind x, String text) {
+    private static void feedAll(Counted x, String text) {
         for (int i = 0; i < text.length(); i += 8) {
             int n = Math.min(8, text.length() - i);
             long w = 0;
@@ -34,28 +34,28 @@ public final class PromiseTest {
         }
     }
 
-    private static int read(MillWind x, String text) {
+    private static int read(Counted x, String text) {
         feedAll(x, text);
         return x.mill();
     }
 
-    private static MillWind with(String... texts) {
-        MillWind x = new MillWind();
+    private static Counted with(String... texts) {
+        Counted x = new Counted();
         for (String text : texts) {
             due("mill() of " + text, read(x, text), x.count(0) - 1);
         }
         return x;
     }
 
-    private static MillWind led(String... texts) {
-        MillWind x = with(texts);
+    private static Counted led(String... texts) {
+        Counted x = with(texts);
         due("lead(0)", x.lead(0), 1);
         return x;
     }
 
     private static void aNewObject() {
         part = "1 a new object";
-        MillWind x = new MillWind();
+        Counted x = new Counted();
         for (int i = 0; i < 6; i++) {
             due("count(" + i + ")", x.count(i), 0);
             due("led(" + i + ")", x.led(i), -3);
@@ -78,7 +78,7 @@ public final class PromiseTest {
 
     private static void feed() {
         part = "2 feed";
-        MillWind x = new MillWind();
+        Counted x = new Counted();
         due("0 bytes", x.feed(0, 0), -2);
         due("9 bytes", x.feed(0, 9), -2);
         due("-1 bytes", x.feed(0, -1), -2);
@@ -100,21 +100,21 @@ public final class PromiseTest {
         due("count(4)", x.count(4), 120);
     }
 
-    private static void fault(MillWind x, String text, int at) {
+    private static void fault(Counted x, String text, int at) {
         due("FAULT of " + text, read(x, text), -10 - at);
         due("THE TAPE behind " + text, x.count(4), 0);
         due("MILLS behind " + text, x.count(0), 0);
     }
 
     private static void mills(String text) {
-        MillWind x = new MillWind();
+        Counted x = new Counted();
         due("MILL " + text, read(x, text), 0);
         due("THE TAPE behind " + text, x.count(4), 0);
     }
 
     private static void mill() {
         part = "3 mill";
-        MillWind x = new MillWind();
+        Counted x = new Counted();
         fault(x, "", 0);
         fault(x, "x", 0);
         fault(x, "F", 0);
@@ -174,7 +174,7 @@ public final class PromiseTest {
         mills("fast 1 !(!(!w=1))&!!!!!w=1|(!!!!w=1)&!!!!!s>0");
         mills("fast 1 !w=1&!w=1&!w=1&!w=1&!w=1&!w=1&!w=1");
         mills("cool 1;cool 1;cool 1;cool 1;cool 1;cool 1;cool 1;cool 1;cool 1;cool 1");
-        MillWind y = with("cool 1", "cool 2", "cool 3", "cool 4");
+        Counted y = with("cool 1", "cool 2", "cool 3", "cool 4");
         due("bytes beyond a sign's 127", y.feed(0xe9, 1), 1);
         due("their FAULT", y.mill(), -10);
         due("the fifth", read(y, "cool 5"), 4);
@@ -186,7 +186,7 @@ public final class PromiseTest {
         due("THE TAPE stays", y.count(4), 7);
     }
 
-    private static void hours(MillWind x, int wind, int setting, int heat, int dull, int... want) {
+    private static void hours(Counted x, int wind, int setting, int heat, int dull, int... want) {
         for (int what = 0; what < 6; what++) {
             due("hour(0, " + wind + ", " + setting + ", " + heat + ", " + dull + ", " + what + ")",
                 x.hour(0, wind, setting, heat, dull, what), want[what]);
@@ -195,13 +195,13 @@ public final class PromiseTest {
 
     /** Whether an E holds: by MEAL of a MILL that has it alone. */
     private static void holds(String e, int wind, int setting, int heat, int dull, int want) {
-        MillWind x = with("meal 1 " + e);
+        Counted x = with("meal 1 " + e);
         due(e, x.hour(0, wind, setting, heat, dull, 1), want);
     }
 
     private static void hour() {
         part = "4 hour";
-        MillWind x = with(PLAIN);
+        Counted x = with(PLAIN);
         hours(x, 0, 0, 0, 0, 0, 3, 0, 0, 0, 0);
         hours(x, 2, 1, 0, 0, 5, 10, 2, 1, 0, 0);
         hours(x, 2, 0, 5, 9, 5, 0, 7, 9, 0, 0);
@@ -258,7 +258,7 @@ public final class PromiseTest {
 
     private static void windAndChance() {
         part = "5 wind, 6 chance";
-        MillWind x = new MillWind();
+        Counted x = new Counted();
         due("wind(1, ..)", x.wind(1, 10, 20, 30, 40, 50), 1);
         int[] want = {10, 20, 30, 40, 50, 850};
         for (int i = 0; i < 6; i++) {
@@ -286,7 +286,7 @@ public final class PromiseTest {
 
     private static void leading() {
         part = "7 lead, 8 led, 9 go";
-        MillWind x = with(PLAIN, HOT);
+        Counted x = with(PLAIN, HOT);
         due("no MILL", x.lead(2), -1);
         due("no MILL", x.lead(-1), -1);
         due("led(0), none", x.led(0), -3);
@@ -331,7 +331,7 @@ public final class PromiseTest {
         due("flour", x.led(4), 2997);
     }
 
-    private static void leads(MillWind x, int... want) {
+    private static void leads(Counted x, int... want) {
         for (int what = 0; what < 6; what++) {
             due("led(" + what + ")", x.led(what), want[what]);
         }
@@ -339,7 +339,7 @@ public final class PromiseTest {
 
     private static void rulesAndRows() {
         part = "10 rule, 11 row";
-        MillWind x = new MillWind();
+        Counted x = new Counted();
         due("NONE", x.rule(7, 8), -1);
         due("NONE", x.rule(-1, 0), -1);
         due("BAD", x.rule(0, 8), -2);
@@ -362,7 +362,7 @@ public final class PromiseTest {
         }
         due("FULL", x.row(6, 0), -4);
         due("BAD ahead of FULL", x.row(6, 8), -2);
-        MillWind y = led(PLAIN);
+        Counted y = led(PLAIN);
         y.rule(6, 5);
         y.rule(6, 4);
         due("the first row", y.row(0, 3), 1);
@@ -373,7 +373,7 @@ public final class PromiseTest {
 
     private static void setsOfKinds() {
         part = "12 sets";
-        MillWind x = led(WINDY);
+        Counted x = led(WINDY);
         for (int kind = 0; kind < 7; kind++) {
             x.rule(kind, 3);
         }
@@ -395,7 +395,7 @@ public final class PromiseTest {
         for (int t = 0; t < 10; t++) {
             due("TOLD", x.sets(6, t, 6, 2, 1), told[t]);
         }
-        MillWind hot = led(HOT);
+        Counted hot = led(HOT);
         hot.rule(4, 0);
         hot.rule(3, 0);
         hot.rule(2, 1);
@@ -405,12 +405,12 @@ public final class PromiseTest {
         hot.go(0, 6);
         due("WATCH, all BURNT", hot.sets(1, 0, 2, 0, 0), 0);
         due("SIGN, all BURNT", hot.sets(2, 0, 2, 0, 0), 0);
-        MillWind slow = led(SLOW);
+        Counted slow = led(SLOW);
         slow.rule(4, 0);
         due("BEST, 3 ahead", slow.sets(0, 0, 3, 0, 0), 0);
         due("BEST, 3 ahead at most", slow.sets(0, 0, 6, 0, 0), 0);
         due("best sees it", slow.best(4, 0, 0), 6);
-        MillWind risky = led(RISKY, ALWAYS_AWAY);
+        Counted risky = led(RISKY, ALWAYS_AWAY);
         risky.rule(5, 3);
         risky.rule(5, 4);
         risky.rule(5, 7);
@@ -434,7 +434,7 @@ public final class PromiseTest {
         due("BAD", x.sets(0, -1, 1, 0, 0), -2);
         due("BAD", x.sets(0, 0, 0, 0, 0), -2);
         due("BAD", x.sets(0, 0, 7, 0, 0), -2);
-        MillWind none = new MillWind();
+        Counted none = new Counted();
         none.rule(0, 0);
         due("BAD ahead of STATE", none.sets(0, 0, 7, 0, 0), -2);
         due("STATE", none.sets(0, 0, 6, 0, 0), -3);
@@ -442,7 +442,7 @@ public final class PromiseTest {
 
     private static void mean() {
         part = "13 mean";
-        MillWind x = led(PLAIN);
+        Counted x = led(PLAIN);
         x.rule(1, 1);
         x.rule(1, 5);
         x.wind(2, 500, 0, 0, 0, 500);
@@ -458,7 +458,7 @@ public final class PromiseTest {
         due("BURNT from the fifth on", x.mean(0, 6, 3, 0), 40000);
         x.go(3, 0);
         due("HEAT as it is LED", x.mean(0, 6, 3, 0), 30000);
-        MillWind y = led(WINDY);
+        Counted y = led(WINDY);
         y.rule(2, 0);
         y.rule(6, 4);
         y.row(1, 6);
@@ -471,7 +471,7 @@ public final class PromiseTest {
         y.go(0, 0);
         due("TOLD from t 0 on, later", y.mean(1, 4, 2, 0), 22000);
         // by both ways to WIND 0 the SIGN is another one: 2 -> 1 -> 0 and 2 -> 2 -> 0
-        MillWind sign = led("meal 7 w=0&c=2;meal 3 w=2&c=1;meal 1 w=1&c=2;meal 2 w=1&c=1");
+        Counted sign = led("meal 7 w=0&c=2;meal 3 w=2&c=1;meal 1 w=1&c=2;meal 2 w=1&c=1");
         sign.rule(2, 0);
         sign.wind(2, 0, 500, 500, 0, 0);
         sign.wind(1, 1000, 0, 0, 0, 0);
@@ -485,18 +485,18 @@ public final class PromiseTest {
         sign.wind(0, 500, 0, 500, 0, 0);
         // the third HOUR: 0 by the sign of 0: 7, 2 by that of 0: 0; 0 by that of 1: 0, 2 by that of 1: 3
         due("SIGN of 3 HOURS, by the WIND before", sign.mean(0, 3, 2, 0), 4000 + (3500 + 1500) / 2);
-        MillWind apart = led("heat 1 w=0;wear 1 w=1;meal 5 h=1&w=3");
+        Counted apart = led("heat 1 w=0;wear 1 w=1;meal 5 h=1&w=3");
         apart.rule(1, 0);
         apart.wind(2, 500, 500, 0, 0, 0);
         apart.wind(0, 0, 0, 0, 1000, 0);
         apart.wind(1, 0, 0, 0, 1000, 0);
         due("HEAT is not DULL", apart.mean(0, 3, 2, 0), 2500);
-        MillWind even = led("meal 5 w=1");
+        Counted even = led("meal 5 w=1");
         even.rule(2, 0);
         even.wind(1, 500, 500, 0, 0, 0);
         even.wind(0, 0, 1000, 0, 0, 0);
         due("a later HOUR is not an earlier one", even.mean(0, 3, 1, 0), 5000 + (5000 + 7500) / 2);
-        MillWind hot = led(HOT);
+        Counted hot = led(HOT);
         hot.rule(4, 0);
         hot.rule(3, 0);
         due("BEST", hot.mean(0, 6, 0, 0), 29000);
@@ -509,7 +509,7 @@ public final class PromiseTest {
         due("NO wind", x.mean(0, 1, -1, 0), NO);
         due("NO what", x.mean(0, 1, 0, 2), NO);
         due("NO what", x.mean(0, 1, 0, -1), NO);
-        MillWind none = with(PLAIN);
+        Counted none = with(PLAIN);
         none.rule(0, 0);
         due("none LED", none.mean(0, 1, 0, 0), NO);
         x.go(4, 4);
@@ -520,7 +520,7 @@ public final class PromiseTest {
 
     private static void best() {
         part = "14 best";
-        MillWind x = led(HOT);
+        Counted x = led(HOT);
         int[] settings = {6, 0, 0, 0, 0, 0};
         int[] worths = {9000, 13000, 17000, 21000, 25000, 29000};
         int[] looks = {0, 4000, 5000, 5000, 5000, 5000};
@@ -536,7 +536,7 @@ public final class PromiseTest {
         due("NO what", x.best(1, 0, 3), NO);
         due("NO what", x.best(1, 0, -1), NO);
         due("none LED", with(HOT).best(1, 0, 0), NO);
-        MillWind y = led(RISKY);
+        Counted y = led(RISKY);
         y.wind(3, 0, 0, 0, 500, 500);
         y.wind(4, 333, 333, 334, 0, 0);
         due("wind 4", y.best(1, 4, 1), 5000);
@@ -550,7 +550,7 @@ public final class PromiseTest {
         for (int what = 0; what < 3; what++) {
             due("away", y.best(2, 3, what), 0);
         }
-        MillWind z = led(HOT, SLOW);
+        Counted z = led(HOT, SLOW);
         due("of the one", z.best(1, 0, 0), 6);
         z.lead(1);
         due("of the other", z.best(1, 0, 0), 0);
@@ -559,7 +559,7 @@ public final class PromiseTest {
 
     private static void dress() {
         part = "15 dress";
-        MillWind x = led(HOT);
+        Counted x = led(HOT);
         due("1 HOUR", x.dress(1, 0), -5);
         due("2 HOURS", x.dress(2, 0), -5);
         due("3 HOURS", x.dress(3, 0), 1);
@@ -572,12 +572,12 @@ public final class PromiseTest {
         due("NONE", x.dress(1, -1), -1);
         due("BAD", x.dress(0, 0), -2);
         due("BAD", x.dress(5, 0), -2);
-        MillWind dull = led("meal 5 d<2;wear 1 w<9");
+        Counted dull = led("meal 5 d<2;wear 1 w<9");
         due("DULL, 4: 1 and 2 are as good", dull.dress(4, 0), 1);
         due("DULL, 3", dull.dress(3, 0), -5);
         due("none LED", with(HOT).dress(1, 0), -3);
         due("BAD ahead of STATE", with(HOT).dress(5, 0), -2);
-        MillWind away = led(ALWAYS_AWAY);
+        Counted away = led(ALWAYS_AWAY);
         due("it would RUN AWAY", away.dress(2, 0), -5);
         away.go(0, 0);
         due("it has", away.dress(2, 0), -5);
@@ -586,7 +586,7 @@ public final class PromiseTest {
 
     private static void dayAndJudged() {
         part = "16 day, 17 judged";
-        MillWind x = with(HOT, PLAIN);
+        Counted x = with(HOT, PLAIN);
         due("STATE", x.judged(0), -3);
         due("NONE ahead of STATE", x.judged(4), -1);
         x.lead(0);
@@ -644,7 +644,7 @@ public final class PromiseTest {
 
     private static void orders() {
         part = "18 order, 19 take, 20 late";
-        MillWind x = new MillWind();
+        Counted x = new Counted();
         due("BAD", x.order(0, 1, 1), -2);
         due("BAD", x.order(21, 1, 1), -2);
         due("BAD", x.order(1, 0, 1), -2);
@@ -674,7 +674,7 @@ public final class PromiseTest {
         due("all", x.late(63), 20);
         due("BAD", x.late(64), -2);
         due("count(3)", x.count(3), 6);
-        MillWind y = new MillWind();
+        Counted y = new Counted();
         y.order(20, 19, 99);
         due("never ready", y.take(), 0);
         due("late", y.late(1), 1);
@@ -683,7 +683,7 @@ public final class PromiseTest {
     private static void ridge() {
         part = "21 ridge";
         // each takes the WIND's worth by more CLOTH, but leaves less of it
-        MillWind x = with("meal 5 c=1;meal 4 c=0", "meal 9 w=3;meal 2 w=2&c=2", "meal 3 w=0", ALWAYS_AWAY,
+        Counted x = with("meal 5 c=1;meal 4 c=0", "meal 9 w=3;meal 2 w=2&c=2", "meal 3 w=0", ALWAYS_AWAY,
             "meal 5 c=2;burn 0");
         due("REST", x.ridge(0, 1, 2, 3, 0), 120);
         due("LOST: 5 + 2 + 3, less 4 + 9 + 3", x.ridge(0, 1, 2, 3, 1), -6);
@@ -700,7 +700,7 @@ public final class PromiseTest {
         due("NONE wind", x.ridge(0, 0, 0, -1, 0), -1);
         due("NONE what", x.ridge(0, 0, 0, 0, 2), -1);
         due("NONE what", x.ridge(0, 0, 0, 0, -1), -1);
-        MillWind y = with("meal 1 w=5&c=3;meal 2 w=2&c=3;meal 4 w=0&c=1;meal 7 w=0&s=1", "edge 4;fast 5 c=0;fast 5 w=4&c=1");
+        Counted y = with("meal 1 w=5&c=3;meal 2 w=2&c=3;meal 4 w=0&c=1;meal 7 w=0&s=1", "edge 4;fast 5 c=0;fast 5 w=4&c=1");
         due("STONES 0, WIND 0 at least", y.ridge(0, 0, 0, 5, 0), 331);
         due("all together", y.ridge(0, 0, 0, 5, 1), 0);
         due("less RUNS AWAY", y.ridge(1, 1, 1, 5, 0), 121);
@@ -709,7 +709,7 @@ public final class PromiseTest {
 
     private static void run() {
         part = "22 run";
-        MillWind x = led(PLAIN);
+        Counted x = led(PLAIN);
         x.rule(1, 1);
         x.rule(6, 0);
         x.row(1, 1);
@@ -730,12 +730,12 @@ public final class PromiseTest {
         due("t from 0 on", x.run(1, 2, 40, 2), 10);
         due("NOW", x.led(1), 3);
         due("flour", x.led(4), 13);
-        MillWind y = led(WINDY);
+        Counted y = led(WINDY);
         y.rule(2, 0);
         y.wind(1, 0, 0, 1000, 0, 0);
         y.wind(2, 0, 1000, 0, 0, 0);
         due("SIGN, a HOUR late", y.run(0, 4, 0, 2), 6);
-        MillWind edge = led("meal 1 w=0&c=0;meal 2 w=1&c=0;meal 4 w=5&c=0");
+        Counted edge = led("meal 1 w=0&c=0;meal 2 w=1&c=0;meal 4 w=5&c=0");
         edge.rule(1, 0);
         // seed 0: 17 NOW * 7 % 1000 = 119, 238
         edge.wind(0, 119, 881, 0, 0, 0);
@@ -743,11 +743,11 @@ public final class PromiseTest {
         edge.lead(0);
         edge.wind(0, 120, 880, 0, 0, 0);
         due("120 is", edge.run(0, 2, 0, 0), 2);
-        MillWind hot = led(HOT);
+        Counted hot = led(HOT);
         hot.rule(4, 0);
         due("BEST by the HOURS of the RUN", hot.run(0, 5, 3, 0), 25);
         due("BURNT", hot.run(0, 5, 3, 0), 0);
-        MillWind away = led(PLAIN);
+        Counted away = led(PLAIN);
         away.rule(1, 5);
         due("away", away.run(0, 30, 3, 4), 0);
         leads(away, 0, 30, 0, 0, 0, 1);
@@ -762,7 +762,7 @@ public final class PromiseTest {
         due("NO wind", x.run(0, 1, 0, 6), NO);
         due("NO wind", x.run(0, 1, 0, -1), NO);
         due("nothing went", x.led(1), 3);
-        MillWind none = with(PLAIN);
+        Counted none = with(PLAIN);
         none.rule(0, 0);
         due("none LED", none.run(0, 1, 0, 0), NO);
         for (int i = 0; i < 33; i++) {
@@ -777,7 +777,7 @@ public final class PromiseTest {
         due("beyond 999", hot.run(0, 1, 0, 0), NO);
     }
 
-    private static void acts(MillWind x, int rule, int act, int arg, int want, int... trace) {
+    private static void acts(Counted x, int rule, int act, int arg, int want, int... trace) {
         String call = "act(" + rule + ", " + act + ", " + arg + ")";
         due(call, x.act(rule, act, arg), want);
         due("count(5) of " + call, x.count(5), trace.length);
@@ -790,7 +790,7 @@ public final class PromiseTest {
 
     private static void actsAndTrace() {
         part = "23 act, 24 trace";
-        MillWind x = new MillWind();
+        Counted x = new Counted();
         acts(x, 0, 0, 5, 0);
         for (int kind = 0; kind < 7; kind++) {
             x.rule(kind, kind + 1);
@@ -835,7 +835,7 @@ public final class PromiseTest {
 
     private static void as() {
         part = "25 as";
-        MillWind x = new MillWind();
+        Counted x = new Counted();
         due("no RULE", x.as(0, 0), -1);
         for (int kind = 0; kind < 7; kind++) {
             x.rule(kind, 7 - kind);
@@ -854,7 +854,7 @@ public final class PromiseTest {
 
     private static void imageAndUndo() {
         part = "26 image, 27 undo";
-        MillWind x = led(PLAIN, HOT);
+        Counted x = led(PLAIN, HOT);
         due("STATE", x.undo(), -3);
         x.go(2, 1);
         x.wind(1, 1, 2, 3, 4, 5);
@@ -906,13 +906,13 @@ public final class PromiseTest {
         due("undo()", x.undo(), 3);
         due("RULE anew", x.rule(6, 5), 1);
         due("its ROW is empty again", x.sets(1, 0, 1, 0, 0), 5);
-        MillWind y = led(HOT, SLOW);
+        Counted y = led(HOT, SLOW);
         y.image();
         y.lead(1);
         due("best of SLOW", y.best(4, 0, 1), 30000);
         y.undo();
         due("best of HOT", y.best(4, 0, 1), 21000);
-        MillWind z = new MillWind();
+        Counted z = new Counted();
         due("image of nothing", z.image(), 0);
         read(z, HOT);
         z.lead(0);
@@ -923,7 +923,7 @@ public final class PromiseTest {
 
     private static void count() {
         part = "28 count";
-        MillWind x = with("cool 1", "cool 2");
+        Counted x = with("cool 1", "cool 2");
         for (int i = 0; i < 3; i++) {
             x.rule(5, 0);
         }

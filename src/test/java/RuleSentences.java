@@ -109,7 +109,7 @@ final class RuleSentences extends Sentences {
             full(x);
             refused(x, -1, "row", () -> x.row(7, 0), () -> x.row(-1, 0), () -> x.row(MIN, 0), () -> x.row(MAX, 0));
             refused(x, -1, "NONE ahead of BAD", () -> x.row(7, 8), () -> x.row(-1, -1));
-            due("without RULES", new MillWind().row(0, 0), -1);
+            due("without RULES", new Counted().row(0, 0), -1);
         });
         holds(11, "BAD;", x -> {
             full(x);
@@ -182,6 +182,8 @@ final class RuleSentences extends Sentences {
             x.wind(2, 0, 1000, 0, 0, 0);
             due("the first HOUR: SIGN by the same WIND", x.run(0, 1, 0, 1), 5);
             due("then by that before", x.run(0, 2, 0, 1), 5);
+            due("WINDS 1, 2, 1: by 1, 1, 2", x.run(0, 3, 0, 1), 5);
+            due("WINDS 2, 1, 2, 1: by 2, 2, 1, 2", x.run(0, 4, 0, 2), 6);
             due("and anew in each RUN", x.run(0, 1, 0, 2), 6);
             due("SIGN: the HOUR before", x.sets(0, 0, 1, 2, 1), 4);
             due("WATCH: the WIND that there is", x.sets(1, 0, 1, 2, 1), 6);
@@ -311,6 +313,18 @@ final class RuleSentences extends Sentences {
                 lead(x, "fast 9 w=5;edge 8;meal 9 c=3");
                 due("none by WIND 5", x.sets(5, 0, 1, 1, 1), 0);
                 due("all by WIND 4", x.sets(4, 0, 1, 1, 1), 6);
+                for (int cloth = 0; cloth < 4; cloth++) {
+                    Counted y = led("fast 9 w=3&c=" + cloth + ";edge 8;meal 9 c=" + cloth + ";meal 5 c=" + (cloth + 2) % 4);
+                    y.rule(5, 3);
+                    y.rule(5, 2);
+                    due("not by CLOTH " + cloth, y.sets(0, 0, 1, 0, 0), (cloth + 2) % 4 * 2);
+                    due("by CLOTH " + cloth, y.sets(1, 0, 1, 0, 0), cloth * 2);
+                    Counted z = led("fast 9 w=3&s=" + cloth % 2 + ";edge 8;meal 9 s=" + cloth % 2 + ";meal 2 c=" + cloth);
+                    z.rule(5, 3);
+                    z.rule(5, 2);
+                    due("not by STONES " + cloth % 2, z.sets(0, 0, 1, 0, 0), cloth * 2 + 1 - cloth % 2);
+                    due("by STONES " + cloth % 2, z.sets(1, 0, 1, 0, 0), cloth * 2 + cloth % 2);
+                }
                 due("all by WIND 4, and RUNNING AWAY by 5 brings 0", x.sets(4, 0, 1, 5, 1), 0);
             });
         holds(12, "by which it doesn't RUN AWAY in this HOUR with any WIND of v or less", x -> {
@@ -363,7 +377,7 @@ final class RuleSentences extends Sentences {
                 () -> x.sets(0, 0, 1, MIN, 0), () -> x.sets(0, 0, 1, MAX, 0), () -> x.sets(0, 0, 1, 0, 6),
                 () -> x.sets(0, 0, 1, 0, -1), () -> x.sets(0, 0, 1, 0, MIN), () -> x.sets(0, 0, 1, 0, MAX));
             refused(x, -1, "NONE ahead of BAD", () -> x.sets(7, 10, 1, 0, 0), () -> x.sets(0, 0, 7, 6, 0), () -> x.sets(0, -1, 0, 0, 6));
-            MillWind none = new MillWind();
+            Counted none = new Counted();
             due("NONE ahead of STATE", none.sets(0, 0, 1, 0, 0), -1);
         });
         holds(12, "BAD;", x -> {
@@ -371,7 +385,7 @@ final class RuleSentences extends Sentences {
             refused(x, -2, "sets", () -> x.sets(0, 10, 1, 0, 0), () -> x.sets(0, -1, 1, 0, 0), () -> x.sets(6, MIN, 1, 0, 0),
                 () -> x.sets(6, MAX, 1, 0, 0), () -> x.sets(4, 0, 0, 0, 0), () -> x.sets(4, 0, 7, 0, 0),
                 () -> x.sets(4, 0, -1, 0, 0), () -> x.sets(4, 0, MIN, 0, 0), () -> x.sets(5, 0, MAX, 0, 0));
-            MillWind none = new MillWind();
+            Counted none = new Counted();
             none.rule(0, 0);
             due("BAD ahead of STATE", none.sets(0, 10, 1, 0, 0), -2);
             due("BAD ahead of STATE", none.sets(0, 0, 7, 0, 0), -2);
@@ -405,7 +419,47 @@ final class RuleSentences extends Sentences {
                 due("three HOURS", x.mean(0, 3, 0, 0), 14000);
                 due("six HOURS", x.mean(0, 6, 0, 0), 35000);
                 due("the WIND before the first is the same", x.mean(1, 1, 5, 0), 7000);
+                // from 2, by both ways to WIND 0 another SIGN: 2, 1, 0 and 2, 2, 0
+                lead(x, "meal 7 w=0&c=2;meal 3 w=2&c=1;meal 1 w=1&c=2;meal 2 w=1&c=1");
+                x.wind(2, 500, 500, 0, 0, 0);
+                x.wind(1, 500, 0, 500, 0, 0);
+                x.wind(0, 500, 0, 500, 0, 0);
+                due("1 HOUR by the SIGN", x.mean(1, 1, 2, 0), 3000);
+                due("2 HOURS by the SIGN", x.mean(1, 2, 2, 0), 3000 + (0 + 2000) / 2);
+                due("3 HOURS by the SIGN of each", x.mean(1, 3, 2, 0), 3000 + (2000 + 3500 + 1500) / 2);
             });
+        holds(13, "by all WINDS that may follow: CHANCE times that, together,", x -> {
+            x.rule(1, 0);
+            x.rule(4, 0);
+            lead(x, "meal 1 w=0;meal 20 w=5;fast 9 w=4;edge 8");
+            x.wind(1, 1000, 0, 0, 0, 0);
+            x.wind(4, 0, 0, 0, 0, 0);
+            due("by the CHANCES of that WIND alone", x.mean(0, 3, 0, 0), 3000);
+            due("by the CHANCES of that WIND alone", x.mean(0, 3, 5, 0), 60000);
+            due("by the CHANCES of that WIND alone", x.mean(1, 3, 0, 0), 3000);
+            due("by the CHANCES of that WIND alone", x.mean(1, 3, 5, 0), 60000);
+            due("by the CHANCES of that WIND alone", x.best(3, 0, 1), 3000);
+            due("by the CHANCES of that WIND alone", x.best(3, 5, 1), 60000);
+            due("AWAY, too", x.mean(0, 3, 3, 1), 0);
+            due("a RUN, too", x.run(0, 3, 0, 5), 60);
+            // HEAT by the one way, DULL by the other one
+            lead(x, "heat 1 w=0;wear 1 w=1;meal 5 h=1&w=3;meal 3 d=1&w=3");
+            x.wind(2, 500, 500, 0, 0, 0);
+            x.wind(0, 0, 0, 0, 1000, 0);
+            x.wind(1, 0, 0, 0, 1000, 0);
+            due("HEAT is not DULL", x.mean(0, 3, 2, 0), 4000);
+            due("HEAT is not DULL in BEST", x.best(3, 2, 1), 4000);
+            due("1 HOUR less is another one", x.best(2, 2, 1), 0);
+            lead(x, "meal 5 w=1;wear 1 w=2;meal 9 d=1&w=1;heat 2 w=3;meal 2 h=2");
+            x.wind(2, 0, 500, 0, 500, 0);
+            x.wind(3, 0, 500, 0, 500, 0);
+            x.wind(1, 500, 500, 0, 0, 0);
+            x.wind(0, 0, 1000, 0, 0, 0);
+            due("2, then 1 or 3, DULL 1", x.mean(0, 2, 2, 0), (14000 + 0) / 2);
+            due("1 HOUR more", x.mean(0, 3, 2, 0), (14000 + 7000 + (16000 + 2000) / 2) / 2);
+            due("BEST of one SETTING", x.best(3, 2, 1), (14000 + 7000 + (16000 + 2000) / 2) / 2);
+            due("and of 2", x.best(2, 2, 1), 7000);
+        });
         holds(13, "CHANCE times that, together, by 1000 (cut).", x -> {
             lead(x, "meal 1 w=3");
             x.rule(1, 0);
@@ -495,7 +549,7 @@ final class RuleSentences extends Sentences {
 
     private static void meanRefusals() {
         holds(13, "NO: rule, n, wind, what, no MILL is LED.", x -> {
-            MillWind none = new MillWind();
+            Counted none = new Counted();
             due("no RULE, none LED", none.mean(0, 1, 0, 0), NO);
             none.rule(0, 0);
             due("none LED", none.mean(0, 1, 0, 0), NO);
@@ -519,6 +573,7 @@ final class RuleSentences extends Sentences {
                 lead(x, "fast 9 c=0;edge 8");
                 due("all bring 0: the least, by which it RUNS AWAY", x.best(1, 0, 0), 0);
                 due("0", x.best(6, 0, 1), 0);
+                due("0 less 0", x.best(6, 0, 2), 0);
                 lead(x, "fast 9 c=3;edge 8;meal 99 c=3;meal 1 c=1");
                 for (int n = 1; n <= 6; n++) {
                     due("RUNNING AWAY brings 0", x.best(n, 0, 0), 2);
@@ -568,6 +623,11 @@ final class RuleSentences extends Sentences {
             x.wind(0, 0, 500, 500, 0, 0);
             due("2 HOURS: 1000 and 2000 and 4000, less 4000", x.best(2, 0, 2), 3000);
             due("3 HOURS: 1000 and 12000, less 8000", x.best(3, 0, 2), 5000);
+            for (int setting = 0; setting < 8; setting++) {
+                Counted y = led("meal 5 c=" + setting / 2 + "&s=" + setting % 2 + ";meal 1 w=9");
+                due("SETTING " + setting + " of all", y.best(4, 0, 2), 0);
+                due("SETTING " + setting, y.best(4, 0, 0), setting);
+            }
             lead(x, "fast 9 w=2;edge 8;meal 4 w=1");
             due("RUNNING AWAY in one of two", x.best(2, 0, 2), 0);
             lead(x, "fast 9 w=2&c>0;edge 8;meal 4 w=1&c>0;meal 3 w=2");
@@ -594,7 +654,7 @@ final class RuleSentences extends Sentences {
             refused(x, NO, "wind", () -> x.best(1, 6, 0), () -> x.best(1, -1, 0), () -> x.best(1, MIN, 0), () -> x.best(1, MAX, 0));
             refused(x, NO, "what", () -> x.best(1, 0, 3), () -> x.best(1, 0, -1), () -> x.best(1, 0, MIN), () -> x.best(1, 0, MAX));
             due("the last ones", x.best(6, 5, 2), 0);
-            MillWind none = new MillWind();
+            Counted none = new Counted();
             mill(none, "cool 1");
             refused(none, NO, "none LED", () -> none.best(1, 0, 0), () -> none.best(6, 5, 1), () -> none.best(6, 5, 2));
         });
@@ -706,6 +766,14 @@ final class RuleSentences extends Sentences {
             refusedActs(x, () -> x.act(7, 0, 5));
             due("no TRACE then", x.count(5), 0);
             due("no TRACE then", x.trace(0), -1);
+            Counted y = full(new Counted());
+            for (int rule = -2; rule < 10; rule++) {
+                for (int act : new int[] {-3, -2, -1, 3, 4, 5}) {
+                    y.act(5, 2, 4);
+                    due("act(" + rule + ", " + act + ")", y.act(rule, act, 5), 0);
+                    due("no TRACE behind act(" + rule + ", " + act + ")", y.count(5), 0);
+                }
+            }
             refusedActs(x, () -> x.act(-1, 0, 5), () -> x.act(MIN, 0, 5), () -> x.act(MAX, 0, 5), () -> x.act(0, 3, 5));
             due("again", x.act(0, 0, 5), 5);
             due("a TRACE", x.trace(0), 1);
@@ -730,7 +798,7 @@ final class RuleSentences extends Sentences {
         return all[kind][act];
     }
 
-    private static void trace(MillWind x, int rule, int act, int... want) {
+    private static void trace(Counted x, int rule, int act, int... want) {
         x.act(rule, act, 9);
         due("bodies of act(" + rule + ", " + act + ")", x.count(5), want.length);
         for (int i = 0; i < want.length; i++) {

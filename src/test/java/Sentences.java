@@ -18,7 +18,7 @@ abstract class Sentences {
     private static final Path DOC = Path.of("../shared/DOC.md");
 
     interface Test {
-        void on(MillWind x);
+        void on(Counted x);
     }
 
     private static final List<String> named = new ArrayList<>();
@@ -34,7 +34,7 @@ abstract class Sentences {
         asked = 0;
         wrong = 0;
         try {
-            test.on(new MillWind());
+            test.on(new Counted());
         } catch (RuntimeException | StackOverflowError e) {
             tell("threw " + e);
         }
@@ -63,7 +63,7 @@ abstract class Sentences {
 
     // ---- what many tests need
 
-    static void feed(MillWind x, String text) {
+    static void feed(Counted x, String text) {
         for (int i = 0; i < text.length(); i += 8) {
             int n = Math.min(8, text.length() - i);
             long w = 0;
@@ -74,36 +74,36 @@ abstract class Sentences {
         }
     }
 
-    static int read(MillWind x, String text) {
+    static int read(Counted x, String text) {
         feed(x, text);
         return x.mill();
     }
 
     /** A MILL by its text; it must be one. */
-    static void mill(MillWind x, String text) {
+    static void mill(Counted x, String text) {
         int number = x.count(0);
         due("mill() of " + text, read(x, text), number);
     }
 
     /** The MILL is read, and LED. */
-    static MillWind lead(MillWind x, String text) {
+    static Counted lead(Counted x, String text) {
         mill(x, text);
         due("lead", x.lead(x.count(0) - 1), 1);
         return x;
     }
 
-    static MillWind led(String text) {
-        return lead(new MillWind(), text);
+    static Counted led(String text) {
+        return lead(new Counted(), text);
     }
 
     /** A text is a MILL. */
     static void fine(String text) {
-        due("mill() of \"" + text + "\"", read(new MillWind(), text), 0);
+        due("mill() of \"" + text + "\"", read(new Counted(), text), 0);
     }
 
     /** A text has a FAULT. */
     static void fault(String text, int at) {
-        due("mill() of \"" + text + "\"", read(new MillWind(), text), -10 - at);
+        due("mill() of \"" + text + "\"", read(new Counted(), text), -10 - at);
     }
 
     /** It ends too early. */
@@ -113,10 +113,10 @@ abstract class Sentences {
 
     /** Behind the start of a text only some bytes can stand. */
     static void only(String start, String next) {
-        MillWind x = new MillWind();
+        Counted x = new Counted();
         for (int b = 0; b < 256; b++) {
             String text = start + (char) b;
-            x = x.count(0) > 0 || b % 20 == 0 ? new MillWind() : x;
+            x = x.count(0) > 0 || b % 20 == 0 ? new Counted() : x;
             int got = read(x, text);
             if (next.indexOf(b) < 0) {
                 due("byte " + b + " behind \"" + start + "\"", got, -10 - start.length());
@@ -130,37 +130,39 @@ abstract class Sentences {
         return text.repeat(n);
     }
 
-    /** All that can be asked for without a change, some 120 calls; THE TRACE too, if it is told. */
-    static String seen(MillWind x, boolean trace) {
+    /** Of all that there is so much that a change is seen, in some 45 calls; THE TRACE too, if it is told. */
+    static String seen(Counted x, boolean trace) {
         StringBuilder s = new StringBuilder();
+        int[] counts = new int[5];
         for (int what = 0; what < 6; what++) {
-            s.append(what < 5 || trace ? x.count(what) : 0).append(' ').append(x.led(what)).append(' ');
-            for (int next = 0; next < 6; next++) {
-                s.append(x.chance(what, next)).append(' ');
+            if (what < 5) {
+                counts[what] = x.count(what);
+                s.append(counts[what]).append(' ');
             }
+            s.append(x.led(what)).append(' ').append(x.chance(1, what)).append(' ').append(x.chance(5 - what, what)).append(' ');
         }
-        for (int mill = 0; mill < x.count(0); mill++) {
+        for (int mill = 0; mill < counts[0]; mill++) {
             s.append(x.hour(mill, 2, 5, 3, 4, 0)).append(' ').append(x.hour(mill, 2, 5, 3, 4, 1)).append(' ');
         }
-        for (int rule = 0; rule < x.count(1); rule++) {
-            s.append(x.as(rule, 0)).append(' ').append(x.sets(rule, 9, 3, 2, 1)).append(' ');
+        for (int rule = 0; rule < counts[1]; rule++) {
+            s.append(x.sets(rule, 9, 3, 2, 1)).append(' ');
         }
         for (int what = 0; what < 4; what++) {
             s.append(x.judged(what)).append(' ');
         }
-        s.append(x.take()).append(' ').append(x.late((1 << x.count(3)) - 1));
-        for (int i = 0; i < 20 && trace; i++) {
-            s.append(' ').append(x.trace(i));
+        s.append(x.take()).append(' ').append(x.late((1 << counts[3]) - 1));
+        if (trace) {
+            s.append(' ').append(x.count(5)).append(' ').append(x.trace(0)).append(' ').append(x.trace(1));
         }
         return s.toString();
     }
 
     /** Calls that are refused: each with its answer, and they change nothing. */
-    static void refused(MillWind x, long want, String calls, LongSupplier... refused) {
+    static void refused(Counted x, long want, String calls, LongSupplier... refused) {
         refusedBut(x, want, calls, true, refused);
     }
 
-    private static void refusedBut(MillWind x, long want, String calls, boolean trace, LongSupplier... refused) {
+    private static void refusedBut(Counted x, long want, String calls, boolean trace, LongSupplier... refused) {
         String before = seen(x, trace);
         for (int i = 0; i < refused.length; i++) {
             due(calls + ", the " + (i + 1) + ". call", refused[i].getAsLong(), want);
@@ -172,12 +174,12 @@ abstract class Sentences {
     }
 
     /** As refused(), of acts: they empty THE TRACE and change nothing else. */
-    static void refusedActs(MillWind x, LongSupplier... refused) {
+    static void refusedActs(Counted x, LongSupplier... refused) {
         refusedBut(x, 0, "act", false, refused);
     }
 
     /** An object with something of all: two MILLS, one LED that has gone, RULES, a ROW, a DAY, ORDERS, a TAPE. */
-    static MillWind full(MillWind x) {
+    static Counted full(Counted x) {
         mill(x, "meal 4 w>0&c=1;meal 7 w>0&c=2;heat 2 w>2;wear 1 s=1;cool 1;burn 8");
         mill(x, "fast 5 w>1;fast 5 w>3&c>1;meal 3 w<9;edge 9");
         x.lead(0);

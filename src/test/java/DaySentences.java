@@ -403,6 +403,9 @@ final class DaySentences extends Sentences {
                 due("WIND 2, 0 at least, -4: 0 at least", x.ridge(3, 3, 1, 2, 0), 332);
                 due("STONES 0, HEAT 0, DULL 0", x.ridge(2, 2, 2, 5, 0), 111);
                 due("the MILL that is LED is none of it", x.led(0), -3);
+                mill(x, "meal 9 c>3;meal 1 c=0;meal 1 c=3");
+                due("no CLOTH beyond 3", x.ridge(4, 4, 4, 3, 0), 0);
+                due("no CLOTH beyond 3", x.ridge(4, 4, 4, 3, 1), 0);
             });
         holds(21, "RIDGE by a WIND: what 0 REST (100 ca, 10 cb and cc; -5), 1 LOST (0 or less; 1: there is no REST).", x -> {
             // by other CLOTH each one alone can be best ahead of the next: there is always a REST

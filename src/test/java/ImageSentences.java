@@ -54,7 +54,7 @@ final class ImageSentences extends Sentences {
         mill(x, COLD);
         x.lead(2);
         x.go(0, 3);
-        x.go(0, 3);
+        x.go(0, 0);
         x.go(5, 3);
         x.wind(1, 0, 0, 0, 0, 0);
         x.wind(5, 1, 2, 3, 4, 5);

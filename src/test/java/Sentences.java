@@ -233,6 +233,10 @@ abstract class Sentences {
 
     /** Each sentence stands once in its promise or ahead of all promises, and no word of the promises is left. */
     static void checkWithTheDocument() throws IOException {
+        if (Files.notExists(DOC)) {
+            System.out.println("no " + DOC + " here: the sentences are not compared with it");
+            return;
+        }
         String whole = plain(Files.readString(DOC));
         int first = whole.indexOf("## Promise 1:");
         String ahead = whole.substring(0, first);
